@@ -435,18 +435,20 @@ public final class ProperFollow {
     }
 
     public boolean image(int k) {
-        if (k < 0 || k >= IMAGES) {
+        Kept kept = imageIn(k);
+        if (kept == null) {
             return false;
         }
-        images[k].keep(plan, day, sentence);
+        kept.keep(plan, day, sentence);
         return true;
     }
 
     public boolean restore(int k) {
-        if (k < 0 || k >= IMAGES || !images[k].isFull()) {
+        Kept kept = imageIn(k);
+        if (kept == null || !kept.isFull()) {
             return false;
         }
-        images[k].giveBack(plan, day, sentence);
+        kept.giveBack(plan, day, sentence);
         history.clear();
         return true;
     }
@@ -459,6 +461,10 @@ public final class ProperFollow {
             case 3: return tape.length();
             default: return NONE;
         }
+    }
+
+    private Kept imageIn(int k) {
+        return k >= 0 && k < IMAGES ? images[k] : null;
     }
 
     private int settleIfDone(int why) {
@@ -1401,21 +1407,25 @@ public final class ProperFollow {
             size = 0;
         }
 
+        private Day dayIn(int k) {
+            return k >= 0 && k < MOST ? days[k] : null;
+        }
+
         void add(Day day) {
-            if (next >= 0 && next < MOST) {
-                days[next].copyFrom(day);
+            Day kept = dayIn(next);
+            if (kept != null) {
+                kept.copyFrom(day);
+                next = (next + 1) % MOST;
+                size = Math.min(MOST, size + 1);
             }
-            next = (next + 1) % MOST;
-            size = Math.min(MOST, size + 1);
         }
 
         void takeBack(Day day) {
-            if (size > 0) {
-                next = (next + MOST - 1) % MOST;
-                size--;
-                if (next >= 0 && next < MOST) {
-                    day.copyFrom(days[next]);
-                }
+            next = (next + MOST - 1) % MOST;
+            size = Math.max(0, size - 1);
+            Day kept = dayIn(next);
+            if (kept != null) {
+                day.copyFrom(kept);
             }
         }
     }
