@@ -1,5 +1,8 @@
 import java.nio.charset.StandardCharsets;
 import java.util.NoSuchElementException;
+import java.util.function.Consumer;
+import java.util.function.Function;
+import java.util.function.Supplier;
 
 /** What the tests share: texts put on the tape, answers compared, a closing line. */
 final class Checks {
@@ -125,5 +128,79 @@ final class Checks {
         }
         due("the byte behind a line", x.byteAt(Math.max(n, 0)), ProperFollow.NONE);
         return text.toString();
+    }
+
+    /** All that an object tells without changing, as one text; without fault() and the bytes of the tape, if so told. */
+    static String all(ProperFollow x, boolean faultToo) {
+        StringBuilder text = new StringBuilder();
+        row(text, "count", 3, x::count);
+        row(text, "now", 7, x::now);
+        for (int p = 0; p < x.count(2); p++) {
+            int him = p;
+            row(text, "person " + p, 7, k -> x.person(him, k));
+            row(text, "was " + p, 6, k -> x.was(him, k));
+        }
+        for (int c = 0; c < x.count(0); c++) {
+            int it = c;
+            row(text, "corner " + c, 4, k -> x.corner(it, k));
+        }
+        row(text, "latest", 1, k -> x.cutting());
+        row(text, "latest", 1, k -> x.ask());
+        row(text, "latest", 1, k -> x.barred());
+        row(text, "latest", 1, k -> x.hiresFar());
+        row(text, "path", 8, x::pathAt);
+        row(text, "hired", 6, x::hiredBy);
+        row(text, "told", 4, x::told);
+        row(text, "said", 7, k -> x.said(k - 1));
+        row(text, "line", 33, x::byteAt);
+        if (faultToo) {
+            row(text, "fault, tape", 2, k -> k == 0 ? x.fault() : x.count(3));
+        }
+        return text.toString();
+    }
+
+    private static void row(StringBuilder text, String what, int n, Function<Integer, Integer> told) {
+        text.append(what);
+        for (int k = 0; k < n; k++) {
+            text.append(' ').append(told.apply(k));
+        }
+        text.append('\n');
+    }
+
+    static void same(String what, String got, String want) {
+        due(what, got.equals(want), true);
+        if (!got.equals(want) && failed <= 5) {
+            System.out.println("got\n" + got + "due\n" + want);
+        }
+    }
+
+    /** Two calls on like objects leave the like: seen at once, by undoing, going on, restoring and reading. */
+    static void alike(String what, Supplier<ProperFollow> made, Consumer<ProperFollow> one,
+            Consumer<ProperFollow> other, boolean faultToo) {
+        for (int look = 0; look < 6; look++) {
+            ProperFollow x = made.get();
+            ProperFollow y = made.get();
+            one.accept(x);
+            other.accept(y);
+            same(what + " (look " + look + ")", lookAt(x, look, faultToo), lookAt(y, look, faultToo));
+        }
+    }
+
+    /** A call leaves everything as it was, the tape and the latest fault, too. */
+    static void leavesAll(String what, Supplier<ProperFollow> made, Consumer<ProperFollow> call) {
+        alike(what, made, call, y -> { }, true);
+    }
+
+    private static String lookAt(ProperFollow x, int look, boolean faultToo) {
+        StringBuilder text = new StringBuilder();
+        switch (look) {
+            case 0: break;
+            case 1: row(text, "undo", 9, k -> x.undo()); break;
+            case 2: row(text, "minutes", 3, k -> x.minutes(1)); break;
+            case 3: row(text, "restore 0", 1, k -> x.restore(0) ? 1 : 0); break;
+            case 4: row(text, "restore 1", 1, k -> x.restore(1) ? 1 : 0); break;
+            default: row(text, "town", 2, k -> k == 0 ? x.count(3) : x.town()); break;
+        }
+        return text.append(all(x, faultToo)).toString();
     }
 }
