@@ -174,6 +174,40 @@ final class Checks {
         }
     }
 
+    /** A square a b c d, and e apart; ann goes, bob follows cid, dan and eve are in a ring soon, fay stands. */
+    static final String RICH_TOWN = "corner a;corner b;corner c;corner d;corner e;street a b;street b c;street c d;"
+            + "street a d;person ann a 3;person bob c 2;person cid e 0;person dan b 0;person eve d 1;person fay c 1;"
+            + "next ann b;next ann c;next ann b;next ann a;follows bob cid 2;";
+
+    /**
+     * An object of which nothing is as in a new one: both images, six acts to undo, a sentence, each of the
+     * latest answers, a fault, and a town of one corner on the tape.
+     */
+    static ProperFollow rich() {
+        ProperFollow x = townOf(RICH_TOWN);
+        sentence(x, "at e");
+        x.image(0);
+        x.drop(0);
+        x.minutes(2);
+        sentence(x, "number > 3");
+        x.image(1);
+        x.hire(3, 4, 1);
+        x.minutes(1);
+        x.hire(4, 3, 5);
+        x.drop(5);
+        sentence(x, "not idle");
+        x.cut();
+        fits(x, 1);
+        x.path(5, 0);
+        x.bar(0, 2);
+        x.hires();
+        x.line(1);
+        book(x, "cid drops;", 0);
+        book(x, "minute 61;", 0);
+        tape(x, "corner zed;");
+        return x;
+    }
+
     /** Two calls on like objects leave the like: seen at once, by undoing, going on, restoring and reading. */
     static void alike(String what, Supplier<ProperFollow> made, Consumer<ProperFollow> one,
             Consumer<ProperFollow> other, boolean faultToo) {
