@@ -208,10 +208,10 @@ final class Checks {
         return x;
     }
 
-    /** Two calls on like objects leave the like: seen at once, by undoing, going on, restoring and reading. */
+    /** Two calls on like objects leave the like: seen at once, by undoing, going on, restoring, reading and acting. */
     static void alike(String what, Supplier<ProperFollow> made, Consumer<ProperFollow> one,
             Consumer<ProperFollow> other, boolean faultToo) {
-        for (int look = 0; look < 6; look++) {
+        for (int look = 0; look < 10; look++) {
             ProperFollow x = made.get();
             ProperFollow y = made.get();
             one.accept(x);
@@ -233,6 +233,10 @@ final class Checks {
             case 2: row(text, "minutes", 3, k -> x.minutes(1)); break;
             case 3: row(text, "restore 0", 1, k -> x.restore(0) ? 1 : 0); break;
             case 4: row(text, "restore 1", 1, k -> x.restore(1) ? 1 : 0); break;
+            case 5: row(text, "send", 6, p -> x.send(p, 1)); break;
+            case 6: row(text, "drop", 6, x::drop); break;
+            case 7: row(text, "leave", 6, x::leave); break;
+            case 8: row(text, "hire", 6, p -> x.hire(0, p, 3)); break;
             default: row(text, "town", 2, k -> k == 0 ? x.count(3) : x.town()); break;
         }
         return text.append(all(x, faultToo)).toString();

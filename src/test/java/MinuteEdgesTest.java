@@ -23,6 +23,7 @@ public final class MinuteEdgesTest {
         bunsTaken();
         bunsWithoutAMost();
         rows();
+        rowsIntoRings();
         rings();
         cuts();
         meeting();
@@ -32,6 +33,7 @@ public final class MinuteEdgesTest {
         properNotNow();
         fitting();
         asking();
+        askingOfLikeOnes();
         paths();
         bars();
         hireAll();
@@ -325,6 +327,29 @@ public final class MinuteEdgesTest {
         }
     }
 
+    /** So many one behind the other, the last of them behind the first of a ring of so many. */
+    private static void rowsIntoRings() {
+        for (int ring = 2; ring <= 6; ring++) {
+            for (int ahead = 0; ahead + ring <= 6; ahead++) {
+                StringBuilder text = new StringBuilder(SIX);
+                int all = ahead + ring;
+                for (int p = 0; p < all; p++) {
+                    text.append("follows ").append((char) ('p' + p)).append(' ');
+                    text.append((char) ('p' + (p + 1 < all ? p + 1 : ahead))).append(" 1;");
+                }
+                ProperFollow x = Checks.townOf(text.toString());
+                for (int p = 0; p < 6; p++) {
+                    int last = p >= all ? p : p <= ahead ? all - 1 : p - 1;
+                    due("ROW of " + p + ": " + ahead + " ahead of a RING of " + ring, x.person(p, 6), last);
+                    int bits = (1 << all) - (1 << ahead);
+                    due("RING of " + p + ": " + ahead + " ahead of " + ring, x.ring(p), p >= ahead && p < all ? bits : 0);
+                }
+                due("CUT: one", x.cut(), 1);
+                due("CUT: the least as bits", x.cutting(), 1 << ahead);
+            }
+        }
+    }
+
     private static void rings() {
         ProperFollow x = Checks.townOf(SIX + "follows p q 1;follows q r 1;follows r s 1;follows s t 1;follows t u 1;");
         due("RING: none", x.ring(0), 0);
@@ -501,6 +526,30 @@ public final class MinuteEdgesTest {
         due("ASK: one is left anyway", y.ask(), 0);
         due("not as told", Checks.fits(y, 9), NONE);
         due("ASK stays", y.ask(), 0);
+    }
+
+    private static void askingOfLikeOnes() {
+        for (int persons = 1; persons <= 6; persons++) {
+            for (char c = 'a'; c <= 'h'; c++) {
+                StringBuilder text = new StringBuilder(STREET);
+                for (int p = 0; p < persons; p++) {
+                    text.append("person ").append((char) ('p' + p)).append(' ').append(c).append(" 0;");
+                }
+                ProperFollow x = Checks.townOf(text.toString());
+                due("all together", Checks.fits(x, 255), (1 << persons) - 1);
+                due("ASK: all may be left whenever", x.ask(), 0);
+            }
+        }
+        // Three at one end and one apart now, two and two a minute ago: whichever end it is.
+        for (int end = 0; end <= 7; end += 7) {
+            char at = (char) ('a' + end);
+            char by = end == 0 ? 'b' : 'g';
+            ProperFollow x = Checks.townOf(STREET + "person p " + at + " 0;person q " + at + " 0;person r " + by + " 0;person s " + by
+                    + " 0;next r " + at + ";");
+            pass(x, 1);
+            due("all four", Checks.fits(x, 255), 15);
+            due("ASK: the greatest number is the least a MINUTE ago", x.ask(), 1);
+        }
     }
 
     private static void path(ProperFollow x, int p, int c, int... want) {
@@ -708,6 +757,7 @@ public final class MinuteEdgesTest {
         pass(x, 3);
         Checks.sentence(x, "idle");
         due("a PRINT", x.now(5) > 0 ? 1 : 0, 1);
+        x.minutes(1);
         Checks.town(x, TWO + "person p a 3;");
         due("A new TOWN: MINUTE 0", x.now(0), 0);
         due("A new TOWN: no PRINTS", x.now(5) + x.corner(0, 3) + x.corner(1, 3), 0);
@@ -717,5 +767,11 @@ public final class MinuteEdgesTest {
         due("A new TOWN: nobody follows", x.now(1), 0);
         due("A new TOWN: nobody has a WAY", x.now(2), 0);
         due("A new TOWN: he was where he is told", x.was(0, 1) + x.was(0, 5), 0);
+        Checks.town(x, TWO + "person p a 3;person q b 0;person r a 0;");
+        for (int p = 0; p < 3; p++) {
+            due("A new TOWN: whom he follows", x.person(p, 2), NONE);
+            due("A new TOWN: by how many MINUTES", x.person(p, 3), NONE);
+            due("A new TOWN: his WAY", x.person(p, 4), 0);
+        }
     }
 }

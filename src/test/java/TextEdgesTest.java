@@ -20,6 +20,7 @@ public final class TextEdgesTest {
 
     public static void main(String[] args) {
         everyByteInATown();
+        everyByteForAToken();
         everyByteInABook();
         everyByteInASentence();
         wordsOfSevenLetters();
@@ -138,6 +139,25 @@ public final class TextEdgesTest {
             } else {
                 noTown(why, 1, b == ';' ? 9 : 8, text);
             }
+        }
+    }
+
+    private static void everyByteForAToken() {
+        String why = "no TOKEN, wherever it stands";
+        for (char b = 0; b < 256; b++) {
+            if (b == ' ' || b == '\n' || isLetter(b) || isDigit(b)) {
+                continue;
+            }
+            noTown(why, 1, 0, b + "corner y;");
+            noTown(why, 1, 9, "corner y;" + b);
+            noTown(why, 1, 7, "corner " + b + ";");
+            noTown(why, 1, 20, "corner y;person p y " + b + ";");
+            noBook(why, 1, 0, b + " drops;");
+            noBook(why, 1, 4, "ann " + b + ";");
+            noBook(why, 1, 7, "minute " + b + ";");
+            noSentence(why, 1, 3, "at " + b);
+            noSentence(why, 1, 5, "buns=" + b);
+            noSentence(why, 1, 4, "idle" + b);
         }
     }
 
