@@ -25,6 +25,9 @@ public final class FaceTest {
         "boolean restore(int)", "int count(int)"
     };
 
+    private static final int NONE = -1;
+    private static final Pattern HEAD = Pattern.compile("( {4}| {8})(?!(if|for|while|switch|do)\\b)\\w.*\\) (throws \\w+ )?\\{");
+
     public static void main(String[] args) throws Exception {
         Class<?> face = ProperFollow.class;
         Checks.due("public", Modifier.isPublic(face.getModifiers()), true);
@@ -117,20 +120,35 @@ public final class FaceTest {
             Matcher m = Pattern.compile(pattern, Pattern.MULTILINE).matcher(text);
             Checks.due("the source has " + pattern, m.find(), false);
         }
-        methodLengths(text);
+        methods(text.split("\n"));
     }
 
-    private static void methodLengths(String text) {
-        String[] lines = text.split("\n");
-        int begin = -1;
+    /** Each method and constructor by its head's indent, up to the bracket that has the same one. */
+    private static void methods(String[] lines) {
+        int begin = NONE;
         for (int i = 0; i < lines.length; i++) {
-            boolean opens = lines[i].matches("( {4}| {8})\\S.*\\) (throws \\w+ )?\\{");
-            if (opens) {
-                begin = i;
-            } else if (begin >= 0 && lines[i].matches("( {4}| {8})\\}")) {
+            if (begin == NONE) {
+                if (HEAD.matcher(lines[i]).matches()) {
+                    begin = i;
+                }
+            } else if (lines[i].equals(indent(lines[begin]) + "}")) {
                 Checks.due("lines of '" + lines[begin].trim() + "'", i - begin < 60, true);
-                begin = -1;
+                begin = NONE;
+            } else {
+                makesNothing(lines[begin].trim(), lines[i].trim());
             }
         }
+        Checks.due("the last method has an end", begin, NONE);
+    }
+
+    private static String indent(String line) {
+        return line.substring(0, line.length() - line.stripLeading().length());
+    }
+
+    /** What is made stands in a field's initialiser, in a constructor, in what the Reader's constructor calls, or behind throw. */
+    private static void makesNothing(String head, String line) {
+        boolean once = head.matches("(public )?[A-Z]\\w*\\(.*") || head.contains(" packedWords(");
+        boolean makes = line.matches(".*\\bnew \\w+ *[(\\[{].*") && !line.startsWith("throw new ");
+        Checks.due("made by a call: " + line, makes && !once, false);
     }
 }
